@@ -462,7 +462,7 @@ public final class SerialLink {
             for (int i = 0; i < row.length; i++) {
                 int b = row.at(i);
                 boolean isCode = left == 0;
-                if (b == 0 || isCode && b > row.length - i) {
+                if (b == 0 || (isCode && b > row.length - i)) {
                     return found(BROKEN_CODE, i);
                 }
                 code = isCode ? b : code;

@@ -133,6 +133,11 @@ public final class LinkTest {
         x.noise(1, 0x01020304, 4);
         x.tick();
         Due.is("something is held ahead of open()", x.state(1, 6), 1);
+        x.noise(1, 0, 1);
+        Due.noise(x, 1, Due.framed(0, 5, 6));
+        x.noise(1, 0x01020304, 4);
+        Due.is("something is taken ahead of open()", x.state(1, 5), 4);
+        Due.is("two pieces", x.state(1, 4), 2);
         Due.is("open", x.open(2, 8, 4, 2, 1), true);
         allIsAsAtFirst("open", x);
         // Nothing of the time before may come back: not the held piece, not the timers.
@@ -396,11 +401,39 @@ public final class LinkTest {
         countsAre("overlong", x, 3, 0, 0, 0, 0, 0, 0, 1, 0, 1, 0, 0, 0, 0, 1);
         x.carry(0, 0, 0);
         countsAre("and forgotten", x, 4, 0, 0, 0, 1, 1, 0, 1, 0, 1, 0, 0, 0, 0, 1);
+        partOfAFrame();
+        behindOtherBytes();
         // KNOWNS that are OLD and DATA that is AGAIN are taken, so they are FORGED, too.
         x = withThree();
         Due.noise(x, 0, Due.framed(64 + 7));
         Due.noise(x, 1, Due.framed(5, 1));
         countsAre("forged and of no use", x, 4, 0, 0, 0, 2, 1, 1, 0, 2, 1);
+    }
+
+    /** A byte changed to 0 behind what is a whole body for itself: taken, but of a part of a frame. */
+    private static void partOfAFrame() {
+        int[] inner = Due.sealed(0, 11);
+        SerialLink x = new SerialLink();
+        x.open(1, 8, 4, 20, 9);
+        Due.give(x, 0, Due.join(java.util.Arrays.copyOfRange(inner, 1, inner.length), Due.bytes(0, 7)));
+        x.tick();
+        int at = Due.stuffed(inner).length;
+        x.carry(0, 3, at * 256 + x.octet(0, 0, at));
+        countsAre("a part of a frame", x, 2, 0, 0, 0, 1, 0, 0, 1, 1, 1);
+        Due.takenIs("a part of a frame", x, 1, Due.bytes(11));
+    }
+
+    /** The check of these bytes with a 0 behind is 0, so the check of a body behind them is that of both. */
+    private static void behindOtherBytes() {
+        int[] ahead = {0, 1, 90, 36, 90, 61};
+        SerialLink x = new SerialLink();
+        x.open(1, 8, 4, 20, 9);
+        Due.give(x, 0, Due.bytes(11, 12));
+        x.tick();
+        Due.noise(x, 1, Due.stuffed(ahead));
+        x.carry(0, 0, 0);
+        countsAre("behind other bytes", x, 2, 0, 0, 0, 1, 0, 0, 0, 1, 1);
+        Due.takenIs("behind other bytes", x, 1, Due.bytes(1, 90, 36, 90, 61, 0, 0, 11, 12));
     }
 
     private static void wrongKinds() {
